@@ -15,6 +15,12 @@ public final class ModelTest {
         for (int i = 0; i < 150; i++) {
             flow("large flow " + i, program(30 + RANDOM.nextInt(60), 2 + RANDOM.nextInt(6)));
         }
+        for (int i = 0; i < 1500; i++) {
+            flow("small web " + i, web(3 + RANDOM.nextInt(3), 1 + RANDOM.nextInt(7), 1 + RANDOM.nextInt(4)));
+        }
+        for (int i = 0; i < 100; i++) {
+            flow("large web " + i, web(4 + RANDOM.nextInt(12), 10 + RANDOM.nextInt(50), 1 + RANDOM.nextInt(12)));
+        }
         for (int i = 0; i < 2000; i++) {
             orders("orders " + i, program(1 + RANDOM.nextInt(20), 6));
         }
@@ -22,6 +28,23 @@ public final class ModelTest {
             arithmetic("arithmetic " + i);
         }
         Due.end("ModelTest");
+    }
+
+    private static GuessFences used = new GuessFences();
+    private static int uses = 0;
+
+    /** Objects take up several programs, so that what one left behind would be seen in the next. */
+    private static GuessFences loaded(int[] words) {
+        uses++;
+        if (uses % 5 == 0) {
+            used = new GuessFences();
+        }
+        used.clear();
+        for (int w : words) {
+            used.word(w);
+        }
+        Due.is("load()", used.load(), 0);
+        return used;
     }
 
     private static int pick(int... choices) {
@@ -72,6 +95,29 @@ public final class ModelTest {
         return RANDOM.nextInt(4) == 0 ? Asm.HALT : Asm.add(d, a, b);
     }
 
+    /** Loads behind a branch, sums of what came before, and loads at some of these: dense for the cut. */
+    private static int[] web(int loads, int sums, int betrayers) {
+        int[] words = new int[1 + loads + sums + betrayers];
+        int near = 2 + RANDOM.nextInt(20);
+        int lone = RANDOM.nextInt(10);
+        for (int p = 1; p < words.length; p++) {
+            int a = source(p, near);
+            int b = RANDOM.nextInt(10) < lone ? 0 : source(p, near);
+            boolean sum = p > loads && p <= loads + sums;
+            words[p] = p <= loads ? Asm.lw(result(p), 0, 4 * p) : sum ? Asm.add(result(p), a, b) : Asm.lw(0, a, 0);
+        }
+        words[0] = Asm.beq(0, 0, words.length);
+        return words;
+    }
+
+    private static int result(int p) {
+        return 1 + p % 31;
+    }
+
+    private static int source(int p, int near) {
+        return RANDOM.nextInt(6) == 0 ? 0 : result(Math.max(1, p - 1 - RANDOM.nextInt(near)));
+    }
+
     private static void faults(int i) {
         int size = 1 + RANDOM.nextInt(4);
         int[] words = program(size, 31);
@@ -100,7 +146,7 @@ public final class ModelTest {
 
     private static void flow(String name, int[] words) {
         SlowModel model = new SlowModel(words);
-        GuessFences x = Asm.loaded(words);
+        GuessFences x = loaded(words);
         model.study();
         decoded(name, x, model);
         if (RANDOM.nextBoolean()) {
@@ -137,7 +183,7 @@ public final class ModelTest {
 
     private static void orders(String name, int[] words) {
         SlowModel model = new SlowModel(words);
-        GuessFences x = Asm.loaded(words);
+        GuessFences x = loaded(words);
         for (int r = 1; r <= 6; r++) {
             model.registers[r] = pick(EDGES);
             x.set(r, model.registers[r]);
@@ -184,7 +230,7 @@ public final class ModelTest {
         int f = g == 32 ? pick(0, 5) : RANDOM.nextInt(8);
         int[] words = {Asm.reg(g, f, 3, 1, 2), Asm.branch(pick(0, 1, 4, 5, 6, 7), 1, 2, 0)};
         SlowModel model = new SlowModel(words);
-        GuessFences x = Asm.loaded(words);
+        GuessFences x = loaded(words);
         model.registers[1] = pick(pick(EDGES), RANDOM.nextInt());
         model.registers[2] = pick(pick(EDGES), RANDOM.nextInt());
         x.set(1, model.registers[1]);

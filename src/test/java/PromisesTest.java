@@ -37,9 +37,12 @@ public final class PromisesTest {
         mark();
         cut();
         cutNearestToLoads();
+        cutTakesResultsBack();
         rewrite();
         rewriteTargets();
+        rewriteLargest();
         rewriteFailing();
+        usedAgain();
         home();
         readme();
         Due.end("PromisesTest");
@@ -763,6 +766,16 @@ public final class PromisesTest {
         marks(led, 0, 3, 3, 3, 3, 11, 11, 5, 5);
     }
 
+    /** The second search takes a result off the first path; the third one needs it. */
+    private static void cutTakesResultsBack() {
+        GuessFences x = Asm.loaded(Asm.beq(0, 0, 15), Asm.lw(1, 0, 0), Asm.lw(2, 0, 4), Asm.lw(3, 0, 8),
+                Asm.add(4, 1, 3), Asm.add(5, 4, 2), Asm.addi(6, 1, 0), Asm.addi(7, 6, 0),
+                Asm.addi(8, 4, 0), Asm.addi(9, 8, 0), Asm.addi(10, 9, 0), Asm.addi(11, 10, 0),
+                Asm.lw(0, 5, 0), Asm.lw(0, 7, 0), Asm.lw(0, 11, 0));
+        Due.is("22: three paths", x.cut(), 3);
+        marks(x, 0, 11, 11, 11, 3, 3, 3, 3, 3, 3, 3, 3, 5, 5, 5);
+    }
+
     private static void rewrite() {
         GuessFences x = Asm.words(Asm.NOP);
         Due.state("23: not loaded", x::rewrite);
@@ -807,6 +820,45 @@ public final class PromisesTest {
         }
     }
 
+    /** As many words as there can be, and jumps that go over more than half of them. */
+    private static void rewriteLargest() {
+        GuessFences x = new GuessFences();
+        x.word(Asm.beq(0, 0, 1));
+        x.word(Asm.lw(1, 1, 0));
+        x.again(1, 518);
+        x.load();
+        Due.is("23: cut()", x.cut(), 518);
+        Due.is("23: rewrite()", x.rewrite(), 1038);
+        Due.is("23: the last fence", x.wordAt(1036), Asm.FENCE);
+        Due.is("24: the last fence", x.home(1036), NONE);
+        Due.is("24: the last word", x.home(1037), 519);
+        Due.is("20: the first load", x.reaches(1, 3), false);
+        Due.is("23: once more", x.rewrite(), 1038);
+        Due.is("13: run(1000)", x.run(1000), 1000);
+        Due.is("13: run(1000)", x.run(1000), 38);
+        x.clear();
+        x.word(Asm.go(513));
+        x.word(Asm.lw(1, 1, 0));
+        x.again(1, 509);
+        x.word(Asm.beq(0, 0, -1));
+        x.word(Asm.HALT);
+        x.word(Asm.go(-512));
+        Due.is("23: load()", x.load(), 0);
+        Due.is("23: cut() of a loop of one load", x.cut(), 1);
+        x.clear();
+        x.word(Asm.go(513));
+        x.word(Asm.beq(0, 0, 1));
+        x.word(Asm.lw(1, 1, 0));
+        x.again(1, 509);
+        x.word(Asm.HALT);
+        x.word(Asm.go(-512));
+        Due.is("23: load()", x.load(), 0);
+        Due.is("23: rewrite()", x.rewrite(), 1023);
+        Due.is("23: a jump far on", x.wordAt(0), Asm.go(1022));
+        Due.is("23: a jump far back", x.wordAt(1022), Asm.go(-1021) & 0xFFFFFFFFL);
+        Due.is("8: where it goes", x.decoded(1022, 5), 1);
+    }
+
     /** A branch to the end over loads, each with its fence: as far as it can go, and one further. */
     private static void rewriteFailing() {
         GuessFences x = new GuessFences();
@@ -829,6 +881,13 @@ public final class PromisesTest {
         Due.is("23: nothing changed", x.wordAt(3), Asm.lw(1, 1, 0));
         Due.is("23: not begun anew", x.state(0), 1);
         Due.is("24: home(514)", x.home(514), 514);
+        x.clear();
+        x.word(Asm.beq(0, 0, 514));
+        x.word(Asm.lw(1, 1, 0));
+        x.again(1, 511);
+        x.word(Asm.NOP);
+        x.load();
+        Due.is("23: from the first word on", x.rewrite(), NONE);
         GuessFences y = new GuessFences();
         y.word(Asm.lw(1, 1, 0));
         y.again(1, 511);
@@ -884,6 +943,22 @@ public final class PromisesTest {
         Due.bounds("24: behind clear()", () -> z.home(0));
         z.word(Asm.NOP);
         Due.is("24: behind clear() and word()", z.home(0), 0);
+    }
+
+    /** What a longer program left behind does not show in a shorter one. */
+    private static void usedAgain() {
+        GuessFences x = Asm.loaded(Asm.beq(0, 0, 3), Asm.lw(1, 2, 0), Asm.lw(3, 1, 0), Asm.beq(1, 1, 0));
+        Due.is("21: mark(2)", x.mark(2), 7);
+        x.clear();
+        x.word(Asm.beq(0, 0, 3));
+        x.word(Asm.addi(1, 1, 0));
+        x.word(Asm.add(3, 1, 1));
+        x.load();
+        Due.is("14: GUESS", x.order(2), 0);
+        Due.is("14: no branch stands at the end", x.order(1), NONE);
+        marks(x, 0, 1, 1);
+        Due.is("22: cut()", x.cut(), 0);
+        Due.is("20: reaches(1, 2)", x.reaches(1, 2), true);
     }
 
     /** The example of README.md. */
