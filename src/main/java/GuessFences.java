@@ -541,7 +541,7 @@ public final class GuessFences {
                 return product(operation, a, b);
             }
             if (divides(operation)) {
-                return b == 0 ? byZero(operation, a) : quotient(operation, a, b);
+                return quotient(operation, a, b);
             }
             switch (operation) {
                 case ADD:
@@ -582,19 +582,15 @@ public final class GuessFences {
             }
         }
 
-        private static int byZero(int operation, int a) {
-            return operation == DIV || operation == DIVU ? -1 : a;
-        }
-
         /** Longs hold every quotient, -2147483648 by -1 too, which the cast then wraps. */
         private static int quotient(int operation, int a, int b) {
             boolean signed = operation == DIV || operation == REM;
             long upper = signed ? a : a & LOW_32;
             long lower = signed ? b : b & LOW_32;
-            if (lower == 0) {
-                return byZero(operation, a);
-            }
             boolean rest = operation == REM || operation == REMU;
+            if (lower == 0) {
+                return rest ? a : -1;
+            }
             return (int) (rest ? upper % lower : upper / lower);
         }
 

@@ -16,6 +16,20 @@ final class Due {
         }
     }
 
+    /** Of two texts only the first lines that differ are told. */
+    static void is(String call, String got, String want) {
+        String[] gotLines = got.split("\n");
+        String[] wantLines = want.split("\n");
+        int line = 0;
+        while (line < gotLines.length - 1 && line < wantLines.length - 1 && gotLines[line].equals(wantLines[line])) {
+            line++;
+        }
+        if (!got.equals(want)) {
+            wrong++;
+            System.out.println(call + " answered '" + gotLines[line] + "', due is '" + wantLines[line] + "'");
+        }
+    }
+
     static void is(String call, boolean got, boolean want) {
         is(call, got ? 1 : 0, want ? 1 : 0);
     }

@@ -629,7 +629,7 @@ public final class PromisesTest {
     }
 
     private static void forget() {
-        GuessFences x = Asm.words(Asm.go(1), Asm.beq(0, 0, 1), Asm.lw(1, 0, 0));
+        GuessFences x = Asm.words(Asm.go(1), Asm.branch(1, 0, 0, 8), Asm.lw(1, 0, 0));
         Due.state("18: not loaded", x::forget);
         x.load();
         Due.is("18: forget() of none", x.forget(), 0);
