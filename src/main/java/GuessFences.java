@@ -584,7 +584,7 @@ public final class GuessFences {
 
         /** Longs hold every quotient, -2147483648 by -1 too, which the cast then wraps. */
         private static int quotient(int operation, int a, int b) {
-            boolean signed = operation == DIV || operation == REM;
+            boolean signed = operation != DIVU && operation != REMU;
             long upper = signed ? a : a & LOW_32;
             long lower = signed ? b : b & LOW_32;
             boolean rest = operation == REM || operation == REMU;

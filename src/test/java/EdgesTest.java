@@ -21,6 +21,7 @@ public final class EdgesTest {
         wordAtEdges();
         loadOfNothing();
         loadBeginsAnew();
+        loadLeavesNothing();
         loadOfFaultUnloads();
         faultAtOfTheLastLoad();
         decodedEdges();
@@ -264,6 +265,56 @@ public final class EdgesTest {
         }
         Due.is("6: leak(0)", x.leak(0), NONE);
         Due.is("6: nothing to resolve", x.order(3), NONE);
+    }
+
+    /** Programs that differ in all that can be studied; the last one is large. */
+    private static GuessFences sample(GuessFences x, int which) {
+        int branch = Asm.beq(1, 2, 1);
+        int[][] words = {{}, {Asm.NOP}, {branch, Asm.lw(3, 1, 0), Asm.lw(4, 3, 0)}, {branch, Asm.addi(3, 1, 0), Asm.add(4, 3, 0)},
+            {Asm.lw(1, 1, 0), Asm.lw(1, 1, 0), Asm.beq(1, 1, -2), Asm.lw(1, 1, 0)}, {Asm.addi(1, 1, 1), Asm.addi(1, 1, 1), Asm.go(-2)},
+            {branch, Asm.lw(1, 0, 0), Asm.lw(2, 0, 0), Asm.add(3, 1, 2), Asm.addi(4, 3, 0), Asm.sw(0, 4, 0)},
+            {branch, Asm.addi(1, 0, 0), Asm.addi(2, 0, 0), Asm.sw(3, 1, 2), Asm.upper(4, 3), Asm.beq(0, 4, 0)},
+            {Asm.FENCE, Asm.FENCE, Asm.HALT, Asm.go(0), branch, Asm.reg(1, 4, 1, 1, 1)}, {Asm.lw(1, 1, 0)}};
+        for (int w : words[which]) {
+            x.word(w);
+        }
+        if (which == words.length - 1) {
+            x.again(1, 516);
+            x.word(Asm.beq(0, 0, -300));
+        }
+        return x;
+    }
+
+    private static void reachesOfSix(GuessFences x) {
+        for (int i = 0; i < 36; i++) {
+            int from = i / 6;
+            int to = i % 6;
+            View.answerOf(() -> x.reaches(from, to) ? 1 : 0);
+        }
+    }
+
+    /** What an earlier program left behind is not to be seen in a later one. */
+    private static void loadLeavesNothing() {
+        for (int first = 0; first < 10; first++) {
+            for (int second = 0; second < 10; second++) {
+                GuessFences x = sample(new GuessFences(), first);
+                x.load();
+                x.poke(0, 9);
+                x.order(0);
+                x.order(1);
+                x.check();
+                reachesOfSix(x);
+                x.rewrite();
+                x.order(0);
+                x.clear();
+                sample(x, second).load();
+                GuessFences y = sample(new GuessFences(), second);
+                y.load();
+                Due.is("6: " + second + " behind " + first, View.of(x), View.of(y));
+                Due.is("23: " + second + " behind " + first, x.rewrite(), y.rewrite());
+                Due.is("23: " + second + " behind " + first + ": check()", x.check(), y.check());
+            }
+        }
     }
 
     private static void loadOfFaultUnloads() {

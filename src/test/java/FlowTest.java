@@ -13,6 +13,9 @@ public final class FlowTest {
         fencesBetween();
         reachesItself();
         noResult();
+        noResultReachesNothing();
+        farApart();
+        reachesAllOver();
         taintedLoads();
         taintedResults();
         betraysRegisters();
@@ -22,6 +25,7 @@ public final class FlowTest {
         fewestTainted();
         fenceBehindEach();
         sameTargets();
+        everyOffset();
         fartherBranches();
         fartherJumps();
         upTo1040Words();
@@ -180,6 +184,68 @@ public final class FlowTest {
         reach("LOAD with D 1", true, Asm.lw(1, 1, 0), Asm.add(1, 1, 0));
     }
 
+    /** Whatever stands behind an instruction without a result, also what uses no second register, or none at all. */
+    private static void noResultReachesNothing() {
+        int[] without = {Asm.add(0, 1, 2), Asm.addi(0, 1, 2), Asm.upper(0, 1), Asm.lw(0, 1, 2), Asm.sw(1, 2, 3), Asm.beq(1, 2, 1),
+            Asm.go(1), Asm.FENCE, Asm.HALT};
+        int[] any = {Asm.add(1, 0, 0), Asm.addi(1, 0, 1), Asm.upper(1, 1), Asm.lw(1, 0, 0), Asm.sw(0, 0, 0), Asm.beq(0, 0, 0),
+            Asm.go(0), Asm.FENCE, Asm.HALT};
+        for (int from = 0; from < without.length; from++) {
+            for (int to = 0; to < any.length; to++) {
+                reach("from kind " + from + " to kind " + to, false, without[from], any[to]);
+            }
+        }
+    }
+
+    /** Words that do nothing up to this place. */
+    private static void fill(GuessFences x, int size, int upTo) {
+        if (upTo > size) {
+            x.word(Asm.NOP);
+        }
+        if (upTo > size + 1) {
+            x.again(1, upTo - size - 1);
+        }
+    }
+
+    /** Two loads come together far on, and what they make is betrayed farther on still. */
+    private static void farApart() {
+        int[] places = {4, 62, 63, 64, 65, 126, 127, 128, 129, 255, 256, 257, 383, 384, 511, 512, 513, 518, 519};
+        for (int i = 0; i < places.length; i++) {
+            for (int j = i + 1; j < places.length; j++) {
+                GuessFences x = Asm.words(Asm.beq(0, 0, 1), Asm.lw(1, 0, 0), Asm.lw(2, 0, 0));
+                fill(x, 3, places[i]);
+                x.word(Asm.add(3, 1, 2));
+                fill(x, places[i] + 1, places[j]);
+                x.word(Asm.lw(0, 3, 0));
+                String name = "sum at " + places[i] + ", betrayed at " + places[j];
+                Due.is(name + ": load()", x.load(), 0);
+                Due.is(name + ": check()", x.check(), 1);
+                Due.is(name + ": cut()", x.cut(), 1);
+                Due.is(name + ": a load", x.mark(1), 3);
+                Due.is(name + ": the sum", x.mark(places[i]), 11);
+                Due.is(name + ": the last", x.mark(places[j]), 5);
+                Due.is(name + ": before it", x.mark(places[j] - 1), places[j] - 1 == places[i] ? 11 : 1);
+                Due.is(name + ": it reaches it", x.reaches(places[i], places[j]), true);
+                Due.is(name + ": a load reaches the sum", x.reaches(2, places[i]), true);
+                Due.is(name + ": a load does not reach the last", x.reaches(2, places[j]), false);
+                Due.is(name + ": rewrite()", x.rewrite(), places[j] + 2);
+                Due.is(name + ": the fence", x.wordAt(places[i] + 1), 267386895);
+            }
+        }
+    }
+
+    /** One result and a program of 520 words, of which every third one uses it. */
+    private static void reachesAllOver() {
+        for (int part = 0; part < 2; part++) {
+            GuessFences x = Asm.words(SEVEN, Asm.sw(7, 0, 0), Asm.NOP, Asm.NOP);
+            x.again(3, 172);
+            Due.is("load()", x.load(), 0);
+            for (int to = 260 * part; to < 260 * part + 260; to++) {
+                Due.is("reaches(0, " + to + ")", x.reaches(0, to), to % 3 == 1);
+            }
+        }
+    }
+
     private static void taintedLoads() {
         int[] forms = {0, 1, 2, 4, 5};
         for (int f : forms) {
@@ -269,6 +335,14 @@ public final class FlowTest {
         GuessFences both = Asm.loaded(branch, Asm.lw(1, 0, 0), Asm.lw(2, 0, 0), Asm.add(3, 1, 2), Asm.lw(0, 3, 0), Asm.lw(0, 1, 0));
         Due.is("a load that gives itself away besides", both.cut(), 2);
         marks("it and the other load", both, 0, 11, 11, 3, 5, 5);
+        GuessFences first = Asm.loaded(Asm.add(3, 1, 2), Asm.lw(0, 3, 0), Asm.HALT, Asm.beq(0, 0, 2), Asm.HALT, Asm.lw(1, 0, 0),
+                Asm.lw(2, 0, 0), Asm.go(-7));
+        Due.is("a sum at the place 0", first.cut(), 1);
+        marks("that sum", first, 11, 5, 1, 0, 1, 3, 3, 1);
+        GuessFences second = Asm.loaded(Asm.addi(3, 1, 0), Asm.add(4, 3, 2), Asm.lw(0, 4, 0), Asm.HALT, Asm.beq(0, 0, 2), Asm.HALT,
+                Asm.lw(1, 0, 0), Asm.lw(2, 0, 0), Asm.go(-8));
+        Due.is("a sum at the place 1", second.cut(), 1);
+        marks("that sum", second, 3, 11, 5, 1, 0, 1, 3, 3, 1);
     }
 
     /** Of two sets of one size the one that lets fewer results be tainted. */
@@ -339,6 +413,37 @@ public final class FlowTest {
         Due.is("load()", x.load(), 0);
         Due.is("cut()", x.cut(), loads);
         return x;
+    }
+
+    /** Branches and jumps to the end and back to the first word, over each number of fences. */
+    private static void everyOffset() {
+        for (int loads = 2; loads <= 509; loads++) {
+            everyOffset(loads, false);
+            everyOffset(loads, true);
+        }
+    }
+
+    private static void everyOffset(int loads, boolean jumpsBack) {
+        int before = 2 + loads + (jumpsBack ? 3 : 2);
+        int end = before + loads - 1;
+        GuessFences x = Asm.words(Asm.go(before), Asm.beq(0, 0, before - 1), Asm.lw(1, 1, 0));
+        x.again(1, loads - 1);
+        x.word(Asm.HALT);
+        if (jumpsBack) {
+            x.word(Asm.go(2 - before));
+        }
+        x.word(Asm.branch(1, 31, 30, 4 * (2 - before)));
+        x.load();
+        String name = loads + " loads: ";
+        Due.is(name + "rewrite()", x.rewrite(), end);
+        Due.is(name + "jump ahead", x.wordAt(0), Asm.go(end) & 0xFFFFFFFFL);
+        Due.is(name + "branch ahead", x.wordAt(1), Asm.beq(0, 0, end - 1) & 0xFFFFFFFFL);
+        Due.is(name + "branch back", x.wordAt(end - 1), Asm.branch(1, 31, 30, 4 * (2 - end)) & 0xFFFFFFFFL);
+        Due.is(name + "its target", x.decoded(end - 1, 5), 1);
+        if (jumpsBack) {
+            Due.is(name + "jump back", x.wordAt(end - 2), Asm.go(2 - end) & 0xFFFFFFFFL);
+            Due.is(name + "its target", x.decoded(end - 2, 5), 0);
+        }
     }
 
     /** From -4096 to 4094: 4092 and -4096 are the last ones that are multiples of 4. */

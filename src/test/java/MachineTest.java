@@ -31,6 +31,7 @@ public final class MachineTest {
         guessesUpTo16();
         resolveRight();
         resolveWrong();
+        leaksAreNotRolledBack();
         registersOfThen();
         fenceOrder();
         windowAtFirst();
@@ -555,6 +556,30 @@ public final class MachineTest {
         Due.is("run() is allowed again", View.answerOf(() -> x.run(1)), "1");
         x.set(3, 3);
         Due.is("register(3)", x.register(3), 3);
+    }
+
+    /** What leaked stays, and what was forgotten on the guess does not come back. */
+    private static void leaksAreNotRolledBack() {
+        GuessFences x = Asm.loaded(Asm.lw(1, 0, 4), Asm.beq(0, 0, 3), Asm.lw(1, 0, 8), Asm.lw(1, 0, 12));
+        x.run(1);
+        x.order(1);
+        x.order(0);
+        x.order(0);
+        Due.is("RESOLVE", x.order(3), 2);
+        long[] due = {pair(1, 4), pair(1, 8), pair(1, 12), pair(0, 4), NONE};
+        for (int i = 0; i < due.length; i++) {
+            Due.is("leak(" + i + ")", x.leak(i), due[i]);
+        }
+        x.load();
+        x.run(1);
+        x.order(1);
+        x.order(0);
+        Due.is("forget() on a guess", x.forget(), 2);
+        x.order(0);
+        Due.is("RESOLVE", x.order(3), 2);
+        Due.is("behind forget()", x.leak(0), pair(1, 12));
+        Due.is("where it ought to have gone", x.leak(1), pair(0, 4));
+        Due.is("no more", x.state(3), 2);
     }
 
     /** What a register becomes behind the branch does not change where it ought to have gone. */
