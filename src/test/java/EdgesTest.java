@@ -274,7 +274,9 @@ public final class EdgesTest {
             {Asm.lw(1, 1, 0), Asm.lw(1, 1, 0), Asm.beq(1, 1, -2), Asm.lw(1, 1, 0)}, {Asm.addi(1, 1, 1), Asm.addi(1, 1, 1), Asm.go(-2)},
             {branch, Asm.lw(1, 0, 0), Asm.lw(2, 0, 0), Asm.add(3, 1, 2), Asm.addi(4, 3, 0), Asm.sw(0, 4, 0)},
             {branch, Asm.addi(1, 0, 0), Asm.addi(2, 0, 0), Asm.sw(3, 1, 2), Asm.upper(4, 3), Asm.beq(0, 4, 0)},
-            {Asm.FENCE, Asm.FENCE, Asm.HALT, Asm.go(0), branch, Asm.reg(1, 4, 1, 1, 1)}, {Asm.lw(1, 1, 0)}};
+            {Asm.FENCE, Asm.FENCE, Asm.HALT, Asm.go(0), branch, Asm.reg(1, 4, 1, 1, 1)},
+            {branch, Asm.lw(1, 0, 0), Asm.addi(2, 1, 0), Asm.lw(0, 1, 0), Asm.lw(0, 2, 0)},
+            {branch, Asm.lw(1, 0, 0), Asm.sw(1, 0, 0), Asm.lw(5, 0, 0), Asm.addi(6, 5, 0), Asm.lw(0, 6, 0)}, {Asm.lw(1, 1, 0)}};
         for (int w : words[which]) {
             x.word(w);
         }
@@ -295,8 +297,8 @@ public final class EdgesTest {
 
     /** What an earlier program left behind is not to be seen in a later one. */
     private static void loadLeavesNothing() {
-        for (int first = 0; first < 10; first++) {
-            for (int second = 0; second < 10; second++) {
+        for (int first = 0; first < 12; first++) {
+            for (int second = 0; second < 12; second++) {
                 GuessFences x = sample(new GuessFences(), first);
                 x.load();
                 x.poke(0, 9);
