@@ -474,7 +474,7 @@ public final class PromisesTest {
     private static void orderRollsBack() {
         GuessFences x = Asm.loaded(Asm.beq(1, 0, 1), Asm.addi(1, 1, 5), Asm.sw(1, 0, 0),
                 Asm.beq(1, 0, -2), Asm.addi(2, 0, 3), Asm.HALT);
-        x.order(1);
+        x.order(2);
         x.order(0);
         x.order(0);
         x.order(2);
