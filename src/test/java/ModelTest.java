@@ -78,9 +78,7 @@ public final class ModelTest {
         int a = RANDOM.nextInt(registers + 1);
         int b = RANDOM.nextInt(registers + 1);
         int number = RANDOM.nextInt(4096) - 2048;
-        int there = RANDOM.nextInt(size + 1) - p;
-        // With a branch to the word behind it either guess goes to one place: PromisesTest has what we take for right there.
-        int aside = there == 1 ? 0 : there;
+        int aside = RANDOM.nextInt(size + 1) - p;
         int sort = RANDOM.nextInt(20);
         if (sort < 5) {
             return Asm.load(pick(0, 1, 2, 4, 5), d, a, number);

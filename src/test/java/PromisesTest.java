@@ -44,7 +44,6 @@ public final class PromisesTest {
         rewriteFailing();
         usedAgain();
         home();
-        readme();
         Due.end("PromisesTest");
     }
 
@@ -576,13 +575,32 @@ public final class PromisesTest {
         Due.is("14: RESOLVE then", y.order(3), 1);
     }
 
-    /** Either guess at a branch to the word behind it goes where it ought to go. */
+    /** Either guess at a branch to the word behind it goes where it ought to go, so nothing is rolled back. */
     private static void orderSamePlace() {
-        for (int order = 1; order <= 2; order++) {
-            GuessFences x = Asm.loaded(Asm.beq(0, 0, 1));
-            x.order(order);
-            Due.is("14: RESOLVE of order " + order, x.order(3), 1);
+        for (int f : new int[] {0, 1, 4, 5, 6, 7}) {
+            for (int v = -1; v <= 1; v++) {
+                resolveSamePlace(f, v, 1);
+                resolveSamePlace(f, v, 2);
+            }
         }
+    }
+
+    private static void resolveSamePlace(int f, int v, int order) {
+        String name = "14: F " + f + ", register 1 is " + v + ", order " + order + ": ";
+        GuessFences x = Asm.loaded(Asm.branch(f, 1, 0, 4), Asm.addi(1, 1, 5), Asm.beq(0, 0, -2), Asm.HALT);
+        x.set(1, v);
+        Due.is(name + "GUESS", x.order(order), 0);
+        Due.is(name + "RUN", x.order(0), 0);
+        Due.is(name + "GUESS of the branch behind it", x.order(1), 0);
+        Due.is(name + "RESOLVE", x.order(3), 1);
+        Due.is(name + "leak", x.leak(0), 1);
+        Due.is(name + "the register stays", x.register(1), v + 5);
+        Due.is(name + "the place stays", x.state(0), 3);
+        Due.is(name + "the other branch is unresolved", x.state(1), 1);
+        Due.is(name + "distance", x.state(2), 0);
+        Due.is(name + "RESOLVE of the other one", x.order(3), 2);
+        Due.is(name + "its place", x.state(0), 0);
+        Due.is(name + "its register", x.register(1), v + 5);
     }
 
     private static void window() {
@@ -959,19 +977,5 @@ public final class PromisesTest {
         marks(x, 0, 1, 1);
         Due.is("22: cut()", x.cut(), 0);
         Due.is("20: reaches(1, 2)", x.reaches(1, 2), true);
-    }
-
-    /** The example of README.md. */
-    private static void readme() {
-        GuessFences x = new GuessFences();
-        x.word(2131555);
-        x.word(41347);
-        x.word(107011);
-        Due.is("README: load()", x.load(), 0);
-        Due.is("README: check()", x.check(), 1);
-        Due.is("README: cut()", x.cut(), 1);
-        Due.is("README: rewrite()", x.rewrite(), 4);
-        Due.is("README: home(2)", x.home(2), NONE);
-        Due.is("README: check()", x.check(), 0);
     }
 }
